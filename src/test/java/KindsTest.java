@@ -91,12 +91,13 @@ public final class KindsTest {
   private static void imagesAreCopies() {
     GuessFolds x = new GuessFolds();
     x.fold(0, 1);
+    x.fold(3, 2);
     x.letter(1);
     x.saw(2);
     x.keep(0);
     String kept = Due.all(x);
     x.undo();
-    x.fold(1, 2);
+    x.fold(0, 1);
     x.hush();
     x.letter(0);
     x.forget();

@@ -212,6 +212,13 @@ public final class StripTest {
     fault("hai 1;", 0);
     fault("  parts 1;", 2);
     fault("abcde 1;", 0);
+    fault("stripz 7;", 0);
+    fault("stripa 7;", 0);
+    fault("xtrip 7;", 0);
+    fault("cart 1;", 0);
+    fault("fair 1;", 0);
+    fault("cold 0 1;", 0);
+    fault("zff 1;", 0);
   }
 
   /** Of more faults than one it is the first by its place. */
