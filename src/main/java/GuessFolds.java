@@ -703,7 +703,7 @@ public final class GuessFolds {
         }
 
         private int wordHere() {
-            while (isLetter(behind)) {
+            while (behind < bytes.size() && isLetter(behind)) {
                 behind++;
             }
             if (isHere("strip")) {
@@ -735,7 +735,7 @@ public final class GuessFolds {
 
         private int numberHere() {
             number = (int) bytes.at(place) - '0';
-            while (isDigit(behind)) {
+            while (behind < bytes.size() && isDigit(behind)) {
                 // A long row of digits must not wrap around to a small number.
                 number = Math.min(number * 10 + (int) bytes.at(behind) - '0', MOST_NUMBER + 1);
                 behind++;
